@@ -1364,15 +1364,20 @@ public final class BandPress {
         }
 
         private void feed() {
-            boolean takes = sheets[REGISTER] == NONE && sheets[TURN] == NONE && inside() < MOST_INSIDE;
+            if (tray == 0 || sheets[REGISTER] != NONE || sheets[TURN] != NONE || inside() >= MOST_INSIDE) {
+                return;
+            }
             int sheet = nextToMake();
-            if (takes && tray > 0 && sheet != NONE) {
+            if (sheet != NONE) {
                 tray--;
                 place(REGISTER, sheet, 0);
             }
         }
 
         private int nextToMake() {
+            if (order.left() == 0) {
+                return NONE;
+            }
             for (int sheet = 0; sheet < order.count; sheet++) {
                 if (order.isLeft(sheet) && !isInside(sheet)) {
                     return sheet;

@@ -399,9 +399,10 @@ public final class PromiseTest {
         due("R of none in the 20th", none.job(1), 0);
         due("all 20 were done", none.variable(0), 20);
         // what is begun there is the twenty-first one, though it has no word
-        BandPress empty = done("{a1+:a a 20={1{}R}{}? D1X R}D1X R");
-        due("20 under way, two of them in the last but one", empty.variable(0), 20);
+        BandPress empty = done("{a1+:a 1{}R D1X R}D1X R");
+        due("20 under way", empty.variable(0), 20);
         due("error of an empty one", empty.job(1), 5);
+        due("at its R", empty.job(2), 10);
     }
 
     private static void variable() {
