@@ -367,6 +367,8 @@ public final class PromiseTest {
         leaves("3{1{4 Q 5}{}? 6}R 7", 7, 4);
         leaves("2{9{1Q}R 2}R", 2, 1, 2, 1);
         leaves("9{1 9{Q}R Q}R", 1);
+        leaves("1{Q 5}R 6", 6);
+        leaves("2{a1+:a a 2={Q}{}? 3}R 6", 6, 3);
         leaves("99999{}R 1", 1);
         leaves("99999{  }R 1", 1);
         leaves("1{}{5}? 2", 2);
@@ -487,6 +489,15 @@ public final class PromiseTest {
         fails("1 1M99999 0T 0 0 2 0 0 0C", 3, 24);
         fails("1 1M99999 0T 2 0 0 0 0 0C", 3, 24);
         fails("1 1M99999 0T 0 0 0 0 2 0C", 3, 24);
+        fails("0 99999T 0 2M", 3, 12);
+        fails("1 1M0 99999T 0 0 0 2 0 0C", 3, 24);
+        due("Y of the first place of a curve", done("1 1M0 99999T 2 0 3 0 4 0C").job(1), 0);
+        due("X of a place", done("99999 0T 0 2M").job(1), 0);
+        due("T takes two values", done("1 2 3T").job(6), 1);
+        due("S takes two values", done("1 2 3S").job(6), 1);
+        due("G takes one value", done("1 2 3G").job(6), 2);
+        due("M takes two values", done("1 2 3M").job(6), 1);
+        due("C takes six values", done("1 1M1 2 3 4 5 6 7C").job(6), 1);
         due("4096 is a stretch", done("4096 4096~S").job(1), 0);
         fails("4097 16S", 3, 7);
         fails("16 4097~S", 3, 8);
@@ -547,6 +558,9 @@ public final class PromiseTest {
         due("what is in both", both.pixel(-1, 1, 1), true);
         due("in one alone", both.pixel(-1, 0, 0), false);
         due("marks of both", both.job(5), 1);
+        due("a saved clip is in force", done(corner + "U" + ALL).job(5), 2);
+        due("behind two that were saved", done("UU" + corner + "U" + ALL).job(5), 2);
+        due("cut further and taken back", done(corner + "UWV" + ALL).job(5), 2);
         due("no path, no clip", done("W" + ALL).job(5), 0);
         due("a clip that is taken back", done("UWV" + ALL).job(5), 48);
         due("a clip for all pages", done(corner + "P" + ALL).job(5), 2);
@@ -809,8 +823,9 @@ public final class PromiseTest {
         x.stick(1, false);
         due("something is inside", ticked(x, 1), 3);
         at(x, 1, 0, -1, -1);
-        x.take(0);
         x.take(1);
+        due("one is on REGISTER still", ticked(x, 1), 3);
+        x.take(0);
         due("all are made", ticked(x, 20), 0);
         due("out in order", x.out(2, 0), 2);
         BandPress turn = printing("PP", 1, true);
@@ -928,7 +943,10 @@ public final class PromiseTest {
         due("the tray gets empty", ticked(few, 20), 4);
         due("one is out", few.press(3), 1);
         few.load(1);
-        due("goes on", ticked(few, 4), 0);
+        due("goes on", ticked(few, 1), 2);
+        at(few, 1, -1, -1, -1);
+        due("the last one is on REGISTER", few.press(2), 0);
+        due("to the end", ticked(few, 3), 0);
     }
 
     private static void cover() {
@@ -985,6 +1003,39 @@ public final class PromiseTest {
     }
 
     private static void nextJob() {
+        BandPress left = done("9 8T 8 8S 4G U 1 1M 2 2L");
+        due("the start behind it", started(left, SQUARE), 0);
+        due("no path", left.job(7), 0);
+        due("GREY 16", left.job(8), 16);
+        left.run(99);
+        due("the matrix as at first", left.pixel(-1, 0, 0) && left.pixel(-1, 3, 3) && !left.pixel(-1, 4, 4), true);
+        due("the start behind that", started(left, "V"), 0);
+        due("nothing is saved", left.run(9), 2);
+        due("error 10", left.job(1), 10);
+
+        BandPress again = printing("PPP", 1, false);
+        again.load(9);
+        ticked(again, 8);
+        ticked(again, 3);
+        due("one is not out", again.press(4) - again.press(3), 1);
+        due("no start then", again.start(1, false, 9), -1);
+        ticked(again, 3);
+        typed(again, "P");
+        due("a start then", again.start(4, false, 9), 0);
+        due("the next job", again.run(9), 1);
+        due("its sheets", again.press(4), 4);
+        due("are made", ticked(again, 30), 0);
+        due("all of them", again.press(3), 4);
+
+        BandPress many = printing("8{P}R", 4, false);
+        due("32 sheets", many.press(4), 32);
+        many.load(40);
+        due("all out", ticked(many, 100), 0);
+        due("32 out", many.press(3), 32);
+        due("the last one", many.out(31, 0), 31);
+        due("its copy", many.out(31, 1), 3);
+        due("its page", many.out(31, 2), 7);
+
         BandPress x = printing("P1 0/P", 2, false);
         due("an error", x.job(1), 4);
         due("its pages are made", x.press(4), 2);
