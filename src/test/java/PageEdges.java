@@ -10,6 +10,7 @@ public final class PageEdges {
         whatEndsThePath();
         twoHundredPlaces();
         placesBehindAZ();
+        eighthsOfACurve();
         placesBeyond();
         placesDownwards();
         stretchesBeyond();
@@ -124,6 +125,44 @@ public final class PageEdges {
         BandPress twice = Check.fine("40 40M80 40L80 80LZ40 80L80 80LZ0 40L0 0LF");
         Check.due("in the third triangle", twice.pixel(-1, 2, 8), true);
         Check.due("beside it", twice.pixel(-1, 8, 2), false);
+        // where the last subpath began, not the first one
+        BandPress last = Check.fine("200 160M200 180L180 160L 40 40M80 40L80 80LZ40 80L80 80LF");
+        Check.due("from where the second one began", last.pixel(-1, 12, 18), true);
+        Check.due("not from where the first one did", last.pixel(-1, 35, 30), false);
+        // a path that is gone leaves no Z behind
+        places("1 1M2 2LZN3 3M4 4L", 2);
+        places("1 1M2 2LZF3 3M4 4L", 2);
+        places("1 1M2 2LZP3 3M1 2 3 4 5 6C", 9);
+        places("1 1M2 2LZ3 3M4 4L", 4);
+    }
+
+    // "each the half of the sum, downwards, of X and of Y"; "eight lines go to the ends of the eighths"
+    private static void eighthsOfACurve() {
+        int[][] curves = {
+            {327, 43, -90, -146, -75, 381, 339, 103}, {83, -286, 1, 90, -166, 367, 396, -156},
+            {182, 50, 54, -89, -67, 271, 52, -122}, {-36, 317, 1, 34, 394, 39, 91, -236}};
+        int[][] ends = {
+            {189, 1, 93, 10, 36, 50, 20, 105, 42, 155, 103, 183, 201, 171, 339, 103},
+            {48, -152, 17, -35, -4, 56, -3, 115, 26, 129, 97, 95, 216, 2, 396, -156},
+            {134, 17, 90, 18, 51, 36, 23, 58, 5, 67, 3, 50, 17, -9, 52, -122},
+            {-9, 222, 41, 149, 98, 88, 154, 36, 192, -17, 203, -75, 173, -147, 91, -236}};
+        for (int k = 0; k < curves.length; k++) {
+            String from = (k == 0 ? "" : "9 5M9 70L") + number(curves[k][0]) + number(curves[k][1]) + (k % 2 == 0 ? "M" : "L");
+            StringBuilder curve = new StringBuilder(from);
+            StringBuilder lines = new StringBuilder(from);
+            for (int at = 2; at < 8; at++) {
+                curve.append(number(curves[k][at]));
+            }
+            for (int at = 0; at < 16; at += 2) {
+                lines.append(number(ends[k][at])).append(number(ends[k][at + 1])).append("L");
+            }
+            for (String behind : new String[] {"", "F", "E", "20 20LF", "ZF", "Z20 20L9 9LF", "20 20L100 9~9 100 9 9CF"}) {
+                long[] is = Check.look(Check.ended(curve + "C" + behind, 1, false));
+                long[] want = Check.look(Check.ended(lines + behind, 1, false));
+                is[4] = want[4];
+                Check.due("what curve " + k + " with " + behind + " does otherwise than its lines", Check.differs(want, is), -1);
+            }
+        }
     }
 
     /** Zeros for a word, but for one of them. */
@@ -260,6 +299,13 @@ public final class PageEdges {
             long[] same = Check.look(Check.ended(change + square, 1, false));
             kept[4] = same[4];
             Check.due("what is otherwise when " + change + " is saved", Check.differs(same, kept), -1);
+        }
+        // what is saved stays in force
+        for (String change : new String[] {"8 16S", "16 8S", "9 0T", "0 9T", "0 0M4 0L4 4LW", "W", "5G"}) {
+            long[] plain = Check.look(Check.ended(change + square, 1, false));
+            long[] saved = Check.look(Check.ended(change + "UU" + square, 1, false));
+            saved[4] = plain[4];
+            Check.due("what is otherwise behind " + change + " U", Check.differs(plain, saved), -1);
         }
         Check.due("the path is not saved", Check.fine("U 1 1M 2 2L V").job(7), 2);
         Check.due("variables are not saved", Check.fine("U 5:a V").variable(0), 5);

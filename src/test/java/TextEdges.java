@@ -227,11 +227,32 @@ public final class TextEdges {
         Check.due("not the first one", x.out(0, 0), -1);
         Check.due("nothing to make", x.press(0), 0);
         Check.due("no value", Check.value(x, 0), Check.ELEMENT);
-        x.run(1);
-        Check.due("all that a new object would do", Check.differs(
-            paperless(Check.look(Check.ended(before, 1, false).then(y -> y.load(9)).then(y -> y.tick(40))
-                .then(Check.ended("0 0M64 0L64 64L0 64LF a z", 1, false)))),
-            paperless(Check.look(Check.ended("0 0M64 0L64 64L0 64LF a z", 1, false)))), -1);
+        String next = "0 0M64 0L64 64L0 64LF a z";
+        long[] plain = paperless(Check.look(Check.ended(next, 1, false)));
+        String[] jobs = {before, "32 8S", "40 0T", "0 40T", "3G", "0 0M9 0L9 9LW", "5:a", "6:z", "7 8{}", "1 1M2 2LZ", "P" + next, "1 +"};
+        for (String old : jobs) {
+            Check.Play first = Check.ended(old, 1, false).then(y -> y.load(9)).then(y -> y.tick(40));
+            long[] behind = paperless(Check.look(first.then(Check.ended(next, 1, false))));
+            Check.due("what is otherwise behind " + old, Check.differs(plain, behind), -1);
+            long[] fresh = paperless(Check.look(Check.begun(next)));
+            long[] begun = paperless(Check.look(first.then(Check.begun(next))));
+            Check.due("what is otherwise at the start behind " + old, Check.differs(fresh, begun), -1);
+        }
+        // the next job's sheets are all made, though those of the job before bore the same numbers
+        BandPress again = Check.played(Check.ended("PPP", 2, false).then(y -> y.load(20)).then(y -> y.tick(40)));
+        Check.due("six are out", again.press(3), 6);
+        Check.type(again, "PPPPP");
+        Check.due("start of the next ones", again.start(1, true, 9), 0);
+        Check.due("none is out", again.press(3), 0);
+        Check.run(again, 9);
+        Check.due("three to make", again.press(4), 3);
+        Check.due("to be made by a press that is cold again", again.press(0), 1);
+        Check.due("all out", Check.tick(again, 60), 0);
+        Check.due("three out", again.press(3), 3);
+        Check.due("the last one's number", again.out(2, 0), 2);
+        Check.due("its first page", again.out(2, 2), 4);
+        Check.due("its copy", again.out(2, 1), 0);
+        Check.due("from the tray", again.press(2), 11);
         BandPress saved = Check.played(Check.ended("UU", 1, false).then(Check.ended("V", 1, false)));
         Check.due("nothing is saved", saved.job(1), 10);
         BandPress path = Check.played(Check.ended("1 1M", 1, false).then(Check.ended("2 2L", 1, false)));
