@@ -230,7 +230,7 @@ public final class BandPress {
 
     /** What has been typed, or the text of a job; that has no fault. */
     private static final class Text {
-        private final char[] signs = new char[MOST_SIGNS];
+        private final int[] signs = new int[MOST_SIGNS];
         private final int[] closings = new int[MOST_SIGNS];
         private final int[] open = new int[MOST_BRACES];
         int length;
@@ -240,7 +240,7 @@ public final class BandPress {
                 return false;
             }
             for (int k = n - 1; k >= 0; k--) {
-                signs[length] = (char) byteOf(word, k);
+                signs[length] = byteOf(word, k);
                 length++;
             }
             return true;
@@ -256,7 +256,7 @@ public final class BandPress {
             int digits = 0;
             boolean named = false;
             for (int at = 0; at < length; at++) {
-                char sign = signs[at];
+                int sign = signs[at];
                 digits = isDigit(sign) ? digits + 1 : 0;
                 depth += sign == '{' ? 1 : sign == '}' ? -1 : 0;
                 boolean stands = named ? isLetter(sign) : isWord(sign);
@@ -1192,7 +1192,9 @@ public final class BandPress {
             perCopy = 0;
             count = 0;
             outCount = 0;
-            Arrays.fill(isOut, false);
+            for (int sheet = 0; sheet < MOST_SHEETS; sheet++) {
+                isOut[sheet] = false;
+            }
         }
 
         void complete(int pagesKept) {
@@ -1310,7 +1312,9 @@ public final class BandPress {
         }
 
         private void moveAll() {
-            Arrays.fill(came, false);
+            for (int k = 0; k < SECTIONS; k++) {
+                came[k] = false;
+            }
             moveFrom(FUSER);
             moveFrom(TURN);
             moveFrom(DRUM);
